@@ -1,4 +1,4 @@
-/** Sixteen registers with a fraction each, and one text to tell fractions by; ../shared/DOC.md says what each call does. */
+/** Sixteen registers with a fraction each, and one text to tell fractions by; ../shared/DOC.md says what calls do. */
 public final class FractionDesk {
     public static final int NONE = -1;
     public static final int BIG = -1;
@@ -143,9 +143,7 @@ public final class FractionDesk {
         if (n < 0 && x.signum() == 0) {
             return ZERO;
         }
-        if (!bench.raise(x, n)) {
-            return BIG;
-        }
+        bench.raise(x, n);
         return bench.keep(target);
     }
 
@@ -409,14 +407,13 @@ public final class FractionDesk {
             if (divisor.size == 0 || steps <= 0 || steps > quotient.limbs.length || size >= limbs.length) {
                 return;
             }
-            // one limb more, so that every step finds the limb above the divisor's highest
+            // the first step too looks at the limb above the divisor's highest
             limbs[size] = 0;
-            size++;
             for (int at = steps - 1; at >= 0; at--) {
                 long digit = trialDigit(divisor, at);
                 if (takeAway(divisor, digit, at)) {
                     digit--;
-                    giveBack(divisor, at);
+                    takeAway(divisor, -1, at);
                 }
                 quotient.limbs[at] = (int) digit;
             }
@@ -448,7 +445,7 @@ public final class FractionDesk {
             return digit;
         }
 
-        /** Takes digit times the divisor away, from limb at on; whether it was too much. */
+        /** Takes digit times the divisor away, from limb at on; whether it was too much. No later step looks above. */
         private boolean takeAway(Whole divisor, long digit, int at) {
             int above = at + divisor.size;
             if (at < 0 || above >= limbs.length) {
@@ -460,23 +457,7 @@ public final class FractionDesk {
                 limbs[at + i] = (int) (left & LIMB_MASK);
                 carry = left >> LIMB_BITS;
             }
-            long left = limbs[above] + carry;
-            limbs[above] = (int) (left & LIMB_MASK);
-            return left < 0;
-        }
-
-        private void giveBack(Whole divisor, int at) {
-            int above = at + divisor.size;
-            if (at < 0 || above >= limbs.length) {
-                return;
-            }
-            long carry = 0;
-            for (int i = 0; i < divisor.size; i++) {
-                long sum = (long) limbs[at + i] + divisor.limbs[i] + carry;
-                limbs[at + i] = (int) (sum & LIMB_MASK);
-                carry = sum >> LIMB_BITS;
-            }
-            limbs[above] = (int) (limbs[above] + carry & LIMB_MASK);
+            return limbs[above] + carry < 0;
         }
 
         static int compare(Whole a, Whole b) {
@@ -533,8 +514,8 @@ public final class FractionDesk {
         private long h;
         private long k;
 
-        Divisors(Whole spare) {
-            this.spare = spare;
+        Divisors() {
+            spare = new Whole(Bench.ROOM);
         }
 
         /** Uses both numbers up; the answer is one of the two. */
@@ -619,7 +600,7 @@ public final class FractionDesk {
             left = new Whole(ROOM);
             right = new Whole(ROOM);
             spare = new Whole(ROOM);
-            divisors = new Divisors(spare);
+            divisors = new Divisors();
             below = false;
         }
 
@@ -771,33 +752,31 @@ public final class FractionDesk {
             takeWhole(divisors.greatestCommon(left, right), false);
         }
 
-        /** Whether the power is small enough; powers need no reducing. */
-        boolean raise(Fraction x, int n) {
+        /** What it makes needs no reducing: powers of two numbers have no more common divisors than these. */
+        void raise(Fraction x, int n) {
             int times = Math.abs(n);
             below = x.below && times % 2 == 1;
-            Whole newTop = n < 0 ? x.bottom : x.top;
-            Whole newBottom = n < 0 ? x.top : x.bottom;
-            return raiseWhole(top, newTop, times) && raiseWhole(bottom, newBottom, times);
+            raiseWhole(top, n < 0 ? x.bottom : x.top, times);
+            raiseWhole(bottom, n < 0 ? x.top : x.bottom, times);
         }
 
-        /** From the highest bit of times down: so no number on the way is greater than the last one. */
-        private boolean raiseWhole(Whole result, Whole base, int times) {
+        /**
+         * From the highest bit of times down: so no number on the way is greater than the last one, and one that is
+         * not small enough can stand for it.
+         */
+        private void raiseWhole(Whole result, Whole base, int times) {
             result.becomeLong(1);
-            for (int bit = HIGHEST_POWER_BIT; bit >= 0; bit--) {
-                if (!multiplyWhole(result, result)) {
-                    return false;
-                }
-                if ((times >> bit & 1) == 1 && !multiplyWhole(result, base)) {
-                    return false;
+            for (int bit = HIGHEST_POWER_BIT; bit >= 0 && result.isSmallEnough(); bit--) {
+                multiplyWhole(result, result);
+                if ((times >> bit & 1) == 1 && result.isSmallEnough()) {
+                    multiplyWhole(result, base);
                 }
             }
-            return true;
         }
 
-        private boolean multiplyWhole(Whole number, Whole by) {
+        private void multiplyWhole(Whole number, Whole by) {
             spare.becomeProduct(number, by);
             number.become(spare);
-            return number.isSmallEnough();
         }
     }
 

@@ -1,6 +1,6 @@
 import java.math.BigInteger;
 
-/** What the tests share: counting wrong answers, telling which exception came, and looking at a register from outside. */
+/** What the tests share: counting wrong answers, telling which exception came, looking at a register from outside. */
 final class Checks {
     /** A call of the desk as the tests hand it over. */
     interface Call {
@@ -28,7 +28,8 @@ final class Checks {
     }
 
     private static String brief(String row) {
-        return row.length() <= 120 ? row : row.substring(0, 50) + ".." + row.length() + ".." + row.substring(row.length() - 50);
+        int n = row.length();
+        return n <= 120 ? row : row.substring(0, 50) + ".." + n + ".." + row.substring(n - 50);
     }
 
     /** The answer as a text; the name of the exception, if one came, so that no exception is taken for another. */

@@ -518,8 +518,10 @@ public final class PromisesTest {
         }
         for (int wrong : new int[] {0, 31, 127, 128, 255}) {
             Checks.due("type " + wrong, desk.type(wrong, 1), FractionDesk.NONE);
-            Checks.due("type " + wrong + " first", desk.type((long) wrong << 56 | Checks.packed("aaaaaaa"), 8), FractionDesk.NONE);
-            Checks.due("type " + wrong + " last", desk.type(Checks.packed("aa") << 8 | wrong, 3), FractionDesk.NONE);
+            long first = (long) wrong << 56 | Checks.packed("aaaaaaa");
+            long last = Checks.packed("aa") << 8 | wrong;
+            Checks.due("type " + wrong + " first", desk.type(first, 8), FractionDesk.NONE);
+            Checks.due("type " + wrong + " last", desk.type(last, 3), FractionDesk.NONE);
         }
         Checks.same("nothing put", Checks.text(desk), "abcdefghijk ~");
         typeToTheEnd();

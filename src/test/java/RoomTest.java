@@ -1,7 +1,7 @@
 import java.lang.management.ManagementFactory;
 import java.math.BigInteger;
 
-/** All calls of a run live in one room: a desk makes what it needs when it is made, and a call that answers makes nothing. */
+/** All calls of a run live in one room: a desk makes what it needs when it is made, a call that answers makes nothing. */
 public final class RoomTest {
     private static final int DESKS = 400;
     private static final long LEAST_OBJECT = 16;

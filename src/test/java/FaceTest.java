@@ -7,16 +7,21 @@ import java.util.TreeSet;
 
 /** The class has the document's public face and nothing more that others can see. */
 public final class FaceTest {
+    private static final String REFUSES = " throws IllegalArgumentException";
     private static final String[] METHODS = {
-        "void set(int,long,long)", "int combine(int,int,int,int)", "int change(int,int,int)", "int power(int,int,int)",
-        "int order(int,int)", "int sign(int)", "int places(int,int)", "long part(int,int,int)", "int write(int)",
-        "int type(long,int)", "int wipe()", "int character(int)", "int read(int)", "int place()",
+        "void set(int,long,long)" + REFUSES, "int combine(int,int,int,int)" + REFUSES,
+        "int change(int,int,int)" + REFUSES, "int power(int,int,int)" + REFUSES,
+        "int order(int,int)" + REFUSES, "int sign(int)" + REFUSES,
+        "int places(int,int)" + REFUSES, "long part(int,int,int)" + REFUSES, "int write(int)" + REFUSES,
+        "int type(long,int)", "int wipe()", "int character(int)", "int read(int)" + REFUSES + ",IllegalStateException",
+        "int place()",
     };
 
     private FaceTest() {
     }
 
     public static void main(String[] args) {
+        Checks.sentence("The public face", "public final class FractionDesk");
         Checks.due("NONE", FractionDesk.NONE, -1);
         Checks.due("BIG", FractionDesk.BIG, -1);
         Checks.due("ZERO", FractionDesk.ZERO, -2);
@@ -42,14 +47,21 @@ public final class FaceTest {
         Set<String> found = new TreeSet<>();
         for (Method method : FractionDesk.class.getDeclaredMethods()) {
             if (!Modifier.isPrivate(method.getModifiers())) {
-                StringBuilder types = new StringBuilder();
-                for (Class<?> type : method.getParameterTypes()) {
-                    types.append(types.length() == 0 ? "" : ",").append(type.getName());
-                }
-                found.add(method.getReturnType().getName() + " " + method.getName() + "(" + types + ")");
+                String parameters = names(method.getParameterTypes());
+                String thrown = names(method.getExceptionTypes());
+                found.add(method.getReturnType().getSimpleName() + " " + method.getName() + "(" + parameters + ")"
+                    + (thrown.isEmpty() ? "" : " throws " + thrown));
             }
         }
         return found.toString();
+    }
+
+    private static String names(Class<?>[] types) {
+        StringBuilder row = new StringBuilder();
+        for (Class<?> type : types) {
+            row.append(row.length() == 0 ? "" : ",").append(type.getSimpleName());
+        }
+        return row.toString();
     }
 
     private static String constants() {

@@ -1,4 +1,6 @@
 import java.math.BigInteger;
+import java.util.ArrayList;
+import java.util.List;
 import java.util.Random;
 
 /**
@@ -6,13 +8,18 @@ import java.util.Random;
  * drawn from a row that is the same in every run of the test.
  */
 public final class ModelTest {
-    private static final int RUNS = 150;
-    private static final int CALLS = 512;
+    private static final int RUNS = 600;
+    /** Looking at all that a run leaves takes many desks, so only some runs end so. */
+    private static final int RUNS_A_LOOK = 6;
+    private static final int CALLS_OF_A_LOOK = 80;
+    private static final int CALLS_OF_A_TEXT = 177;
+    private static final int GREAT_BITS = 2060;
+    private static final int FEW_BITS = 300;
 
     private final Random row;
-    private final FractionDesk desk = new FractionDesk();
+    private final Desk desk = new Desk();
+    private final List<Start.Call> made = new ArrayList<>();
     private final Model model = new Model();
-    private String call = "";
 
     private ModelTest(int run) {
         row = new Random(run);
@@ -27,85 +34,82 @@ public final class ModelTest {
     }
 
     private void run(int run) {
-        for (int i = 0; i < CALLS; i++) {
-            String got = step();
-            Checks.same("run " + run + ", call " + i + ", " + call, got, model.answer);
-            if (i % 16 == 0 || i == CALLS - 1) {
-                compareAll(run, i);
+        boolean looks = run % RUNS_A_LOOK == 0;
+        int least = looks ? CALLS_OF_A_LOOK + row.nextInt(Desk.MOST_CALLS - CALLS_OF_A_LOOK) : 1;
+        while (desk.left() >= least + (looks ? CALLS_OF_A_TEXT : 0)) {
+            step(run);
+        }
+        if (looks) {
+            lookAtAll(run);
+        }
+    }
+
+    private void lookAtAll(int run) {
+        Look look = new Look(another -> {
+            for (Start.Call call : made) {
+                call.on(another);
             }
+        });
+        String when = "run " + run + ", after " + made.size() + " steps, ";
+        for (int a = 0; a < Start.REGISTERS; a++) {
+            Checks.same(when + "register " + a, look.fraction(a), model.tops[a] + "/" + model.bottoms[a]);
         }
+        Checks.same(when + "the text", look.text(), model.text);
+        Checks.same(when + "the place", look.place(), Integer.toString(model.place));
     }
 
-    private void compareAll(int run, int i) {
-        for (int a = 0; a < 16; a++) {
-            Checks.same("run " + run + ", after call " + i + ", " + call + ", register " + a,
-                Checks.fraction(desk, a), model.tops[a] + "/" + model.bottoms[a]);
-            Checks.due("places", desk.places(a, 0), model.tops[a].abs().bitLength());
-            Checks.due("places below", desk.places(a, 1), model.bottoms[a].bitLength());
-        }
-        Checks.same("run " + run + ", after call " + i + ", " + call + ", text", Checks.text(desk), model.text);
-        Checks.due("place", desk.place(), model.place);
+    /** The model has made the call already. */
+    private void expect(int run, Start.Call call) {
+        made.add(call);
+        String got = call.on(desk);
+        String name = "run " + run + ", step " + made.size() + ", " + desk.latest();
+        Checks.same(name, got, model.answer);
     }
 
-    /** Makes one call on both; what the model answers stands in it, what the desk answers is told. */
-    private String step() {
+    private void step(int run) {
         int to = register();
         int a = register();
         int b = register();
         int kind = row.nextInt(11) - 1;
         switch (row.nextInt(16)) {
-            case 0:
-                return stepSet(to);
-            case 1:
-            case 2:
-                return stepRead(to);
-            case 3:
-            case 4:
-            case 5:
-            case 6:
-            case 7:
-            case 8:
-                call = "combine " + to + " " + kind + " " + a + " " + b;
+            case 0 -> stepSet(run, to);
+            case 1, 2 -> stepRead(run, to);
+            case 3, 4, 5, 6, 7 -> {
                 model.combine(to, kind, a, b);
-                return Checks.told(() -> desk.combine(to, kind, a, b));
-            case 9:
-                call = "change " + to + " " + kind + " " + a;
+                expect(run, another -> another.combine(to, kind, a, b));
+            }
+            case 8 -> {
                 model.change(to, kind, a);
-                return Checks.told(() -> desk.change(to, kind, a));
-            case 10:
-                return stepPower(to, a);
-            case 11:
-                call = "order " + a + " " + b;
+                expect(run, another -> another.change(to, kind, a));
+            }
+            case 9 -> stepPower(run, to, a);
+            case 10 -> {
                 model.order(a, b);
-                return Checks.told(() -> desk.order(a, b));
-            case 12:
-                call = "write " + a;
+                expect(run, another -> another.order(a, b));
+            }
+            case 11 -> {
+                model.sign(a);
+                expect(run, another -> another.sign(a));
+            }
+            case 12 -> stepPart(run, a);
+            case 13 -> {
                 model.write(a);
-                return Checks.told(() -> desk.write(a));
-            case 13:
-                return stepType();
-            case 14:
-                call = "wipe";
-                model.wipe();
-                return Checks.told(() -> desk.wipe());
-            default:
-                return stepPart(a);
+                expect(run, another -> another.write(a));
+            }
+            case 14 -> stepType(run);
+            default -> stepText(run);
         }
     }
 
     private int register() {
-        return row.nextInt(60) == 0 ? row.nextInt(40) - 12 : row.nextInt(16);
+        return row.nextInt(60) == 0 ? row.nextInt(40) - 12 : row.nextInt(Start.REGISTERS);
     }
 
-    private String stepSet(int to) {
+    private void stepSet(int run, int to) {
         long top = someLong();
         long bottom = someLong();
-        call = "set " + to + " " + top + " " + bottom;
         model.set(to, top, bottom);
-        return Checks.told(() -> {
-            desk.set(to, top, bottom);
-            return 0;
-        });
+        expect(run, another -> another.set(to, top, bottom));
     }
 
     private long someLong() {
@@ -113,45 +117,70 @@ public final class ModelTest {
         return row.nextInt(30) == 0 ? Long.MIN_VALUE : number;
     }
 
-    private String stepPower(int to, int a) {
+    private void stepPower(int run, int to, int a) {
         int n = row.nextInt(3) == 0 ? row.nextInt(4110) - 2055 : row.nextInt(61) - 30;
-        call = "power " + to + " " + a + " " + n;
         model.power(to, a, n);
-        return Checks.told(() -> desk.power(to, a, n));
+        expect(run, another -> another.power(to, a, n));
     }
 
-    private String stepPart(int a) {
+    private void stepPart(int run, int a) {
         int which = row.nextInt(40) == 0 ? row.nextInt(5) - 2 : row.nextInt(2);
         int k = row.nextInt(80) - 5;
-        call = "part " + a + " " + which + " " + k;
-        model.part(a, which, k);
-        return Checks.told(() -> desk.part(a, which, k));
-    }
-
-    private String stepType() {
-        long characters = row.nextBoolean() ? row.nextLong() : Checks.packed("-12/345x".substring(row.nextInt(8)));
-        int n = row.nextInt(11) - 1;
-        call = "type " + characters + " " + n;
-        model.type(characters, n);
-        return Checks.told(() -> desk.type(characters, n));
-    }
-
-    /** Types a text that tells a fraction, or nearly does, and reads it. */
-    private String stepRead(int to) {
-        if (row.nextInt(3) > 0) {
-            String fraction = someText();
-            desk.wipe();
-            Checks.typeAll(desk, fraction);
-            model.text = fraction;
+        if (row.nextInt(3) == 0) {
+            model.places(a, which);
+            expect(run, another -> another.places(a, which));
+        } else {
+            model.part(a, which, k);
+            expect(run, another -> another.part(a, which, k));
         }
-        call = "read " + to + " of " + model.text;
+    }
+
+    private void stepType(int run) {
+        long characters = row.nextBoolean() ? row.nextLong() : Desk.packed("-12/345x".substring(row.nextInt(8)));
+        int n = row.nextInt(11) - 1;
+        model.type(characters, n);
+        expect(run, another -> another.type(characters, n));
+    }
+
+    private void stepText(int run) {
+        int i = row.nextInt(model.text.length() + 5) - 2;
+        switch (row.nextInt(3)) {
+            case 0 -> {
+                model.wipe();
+                expect(run, another -> another.wipe());
+            }
+            case 1 -> {
+                model.character(i);
+                expect(run, another -> another.character(i));
+            }
+            default -> {
+                model.tellPlace();
+                expect(run, another -> another.place());
+            }
+        }
+    }
+
+    /** Types a text that tells a fraction, or nearly does, if there are calls enough for it; and reads what stands. */
+    private void stepRead(int run, int to) {
+        if (desk.left() >= CALLS_OF_A_TEXT && row.nextInt(3) > 0) {
+            String fraction = someText();
+            model.wipe();
+            expect(run, another -> another.wipe());
+            model.text = fraction;
+            model.answer = "";
+            expect(run, another -> {
+                another.typeAll(fraction);
+                return "";
+            });
+        }
         model.read(to);
-        return Checks.told(() -> desk.read(to));
+        expect(run, another -> another.read(to));
     }
 
     private String someText() {
-        BigInteger common = row.nextInt(3) == 0 ? someWhole(900) : BigInteger.ONE;
-        int room = common.equals(BigInteger.ONE) ? 2060 : 1160;
+        boolean great = row.nextInt(4) == 0;
+        BigInteger common = row.nextInt(3) == 0 ? someWhole(great ? 900 : FEW_BITS) : BigInteger.ONE;
+        int room = great && common.equals(BigInteger.ONE) ? GREAT_BITS : great ? GREAT_BITS - 900 : FEW_BITS;
         String text = (row.nextBoolean() ? "-" : "") + someWhole(room).multiply(common);
         if (row.nextInt(3) > 0) {
             text += "/" + someWhole(room).multiply(common);
@@ -333,6 +362,18 @@ public final class ModelTest {
             }
         }
 
+        void sign(int a) {
+            if (!refuses(true, a)) {
+                answer = "" + tops[a].signum();
+            }
+        }
+
+        void places(int a, int which) {
+            if (!refuses(which == 0 || which == 1, a)) {
+                answer = "" + (which == 0 ? tops[a].abs() : bottoms[a]).bitLength();
+            }
+        }
+
         void part(int a, int which, int k) {
             if (!refuses(which == 0 || which == 1, a)) {
                 BigInteger number = which == 0 ? tops[a].abs() : bottoms[a];
@@ -367,6 +408,14 @@ public final class ModelTest {
         void wipe() {
             answer = "" + text.length();
             text = "";
+        }
+
+        void character(int i) {
+            answer = i < 0 || i >= text.length() ? "-1" : "" + (int) text.charAt(i);
+        }
+
+        void tellPlace() {
+            answer = "" + place;
         }
 
         void read(int to) {

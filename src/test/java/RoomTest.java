@@ -1,7 +1,7 @@
 import java.lang.management.ManagementFactory;
 import java.math.BigInteger;
 
-/** All calls of a run live in one room: a desk makes what it needs when it is made, a call that answers makes nothing. */
+/** All calls of a run live in one room: a desk makes what it needs when it is made, and no call makes more. */
 public final class RoomTest {
     private static final int DESKS = 400;
     private static final long LEAST_OBJECT = 16;
@@ -44,7 +44,7 @@ public final class RoomTest {
         String row = most + "/" + BigInteger.TWO.pow(2047).subtract(BigInteger.TEN);
         long[] packed = new long[row.length() / 8];
         for (int i = 0; i < packed.length; i++) {
-            packed[i] = Checks.packed(row.substring(8 * i, 8 * i + 8));
+            packed[i] = Desk.packed(row.substring(8 * i, 8 * i + 8));
         }
         return packed;
     }

@@ -1,4 +1,5 @@
 import java.math.BigInteger;
+import java.util.List;
 
 /** The numbers at which the document's sentences turn. */
 final class Edges {
@@ -15,7 +16,36 @@ final class Edges {
 
     static final int[] NO_REGISTERS = {-1, 16, Integer.MIN_VALUE, Integer.MAX_VALUE};
 
+    /** Ways in which register 0 becomes 0 and could get a sign, if register 1 has 0 and register 2 is below 0. */
+    private static final List<Start.Call> WAYS_TO_ZERO = List.of(
+        desk -> desk.set(0, 0, -1),
+        desk -> desk.combine(0, 1, 2, 2),
+        desk -> desk.combine(0, 2, 1, 2),
+        desk -> desk.combine(0, 3, 1, 2),
+        desk -> desk.combine(0, 6, 1, 2),
+        desk -> desk.combine(0, 7, 2, 2),
+        desk -> desk.change(0, 0, 1),
+        desk -> desk.change(0, 4, 2),
+        desk -> readZero(desk));
+
     private Edges() {
+    }
+
+    private static String readZero(Desk desk) {
+        desk.typeAll("-0");
+        return desk.read(0);
+    }
+
+    /** What the question answers, asked of register 0 after each of these ways, is due. */
+    static void expectOfZeros(String want, Start.Call question) {
+        for (Start.Call way : WAYS_TO_ZERO) {
+            Desk desk = new Desk();
+            desk.set(2, -1, 2);
+            way.on(desk);
+            String name = desk.latest();
+            String got = question.on(desk);
+            Checks.same(desk.latest() + " after " + name, got, want);
+        }
     }
 
     static String two(int n) {

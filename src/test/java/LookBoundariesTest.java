@@ -65,20 +65,7 @@ public final class LookBoundariesTest {
         Start.of("-1/" + Edges.MOST).leavesAll("-1", desk -> desk.sign(0));
         Start.of(Edges.MOST).leavesAll("1", desk -> desk.sign(0));
         Start.of("-" + Edges.MOST).leavesAll("-1", desk -> desk.sign(0));
-        expectZeroSign(desk -> desk.change(0, 0, 1));
-        expectZeroSign(desk -> desk.combine(0, 2, 1, 2));
-        expectZeroSign(desk -> desk.combine(0, 1, 2, 2));
-        expectZeroSign(desk -> desk.change(0, 4, 2));
-        expectZeroSign(desk -> desk.set(0, 0, -1));
-    }
-
-    /** Ways in which 0 could get a sign: register 1 has 0, register 2 is below 0. */
-    private static void expectZeroSign(Start.Call call) {
-        Desk desk = new Desk();
-        desk.set(2, -1, 2);
-        call.on(desk);
-        String name = desk.latest();
-        Checks.same("sign(0) after " + name, desk.sign(0), "0");
+        Edges.expectOfZeros("0", desk -> desk.sign(0));
     }
 
     private static void signNoRegister() {

@@ -71,32 +71,11 @@ public final class TextBoundariesTest {
         expectWrite("-" + Edges.MOST, "-" + Edges.MOST);
         String ten = "1" + "0".repeat(616);
         expectWrite("-" + ten, "-" + ten);
-        writeZero();
-    }
-
-    /** Ways in which 0 could get a sign: register 1 has 0, register 2 is below 0. */
-    private static void writeZero() {
-        expectZeroText(desk -> desk.set(0, 0, -1));
-        expectZeroText(desk -> desk.change(0, 0, 1));
-        expectZeroText(desk -> desk.change(0, 4, 2));
-        expectZeroText(desk -> desk.combine(0, 1, 2, 2));
-        expectZeroText(desk -> desk.combine(0, 2, 1, 2));
-        expectZeroText(desk -> desk.combine(0, 3, 1, 2));
-        expectZeroText(desk -> desk.combine(0, 6, 1, 2));
-        expectZeroText(desk -> desk.combine(0, 7, 2, 2));
-        expectZeroText(desk -> {
-            desk.typeAll("-0");
-            return desk.read(0);
+        Edges.expectOfZeros("1", desk -> desk.write(0));
+        Edges.expectOfZeros(Integer.toString('0'), desk -> {
+            desk.write(0);
+            return desk.character(0);
         });
-    }
-
-    private static void expectZeroText(Start.Call call) {
-        Desk desk = new Desk();
-        desk.set(2, -1, 2);
-        call.on(desk);
-        String name = desk.latest();
-        Checks.same("write(0) after " + name, desk.write(0), "1");
-        Checks.same("its character", desk.character(0), Integer.toString('0'));
     }
 
     private static void writeBottom() {
